@@ -24,7 +24,7 @@ public final class Beaverhall {
     private final Machine[] machines = new Machine[MOST_MACHINES];
     private int machineCount = 0;
     private final Judge judge = new Judge();
-    private final Listing listing = new Listing(judge);
+    private final Listing listing = new Listing();
     private final Counters counters = new Counters();
     private final Tags tags = new Tags();
     private final FractionWalk fractions = new FractionWalk();
@@ -166,14 +166,14 @@ public final class Beaverhall {
     public int listed(int states, int steps, char what) throws IllegalArgumentException {
         demandListing(states, steps);
         demand(what == 'h' || what == 'n' || what == 'o' || what == 's' || what == 'm');
-        listing.list(states, steps);
+        listing.list(judge, states, steps);
         return listing.partOf(what);
     }
 
     public int champion(int states, int steps) throws IllegalArgumentException, IllegalStateException {
         demandListing(states, steps);
         demandRoom();
-        listing.list(states, steps);
+        listing.list(judge, states, steps);
         Machine m = new Machine(false, states, 2);
         m.takeOrders(listing.best);
         return added(m);
@@ -181,7 +181,7 @@ public final class Beaverhall {
 
     public float haltingShare(int states, int steps) throws IllegalArgumentException {
         demandListing(states, steps);
-        listing.list(states, steps);
+        listing.list(judge, states, steps);
         int all = listing.halting + listing.endless + listing.open;
         return all == 0 ? 0 : (float) listing.halting / (float) all;
     }
@@ -769,18 +769,13 @@ public final class Beaverhall {
     private static final class Returns {
         int first = 0;
         int second = 0;
-        private final Run now;
-        private final Run then;
+        private final Run now = new Run();
+        private final Run then = new Run();
         private int length = 0;
         private final int[] cells = new int[MOST_RETURN_STEPS + 1];
         private final int[] states = new int[MOST_RETURN_STEPS + 1];
         private final int[] reads = new int[MOST_RETURN_STEPS + 1];
         private final int[] firsts = new int[MOST_RETURN_STEPS + 1];
-
-        Returns(Run now, Run then) {
-            this.now = now;
-            this.then = then;
-        }
 
         boolean comesBack(Machine m, int bound) {
             writeDown(m, bound);
@@ -1066,9 +1061,9 @@ public final class Beaverhall {
     /** The deciders, and the checker, which believes none of them. */
     private static final class Judge {
         final Run now = new Run();
-        final Run then = new Run();
-        final Returns returns = new Returns(now, then);
+        final Returns returns = new Returns();
         final WaysBack waysBack = new WaysBack();
+        private final Run then = new Run();
         private final RunByRows byRows = new RunByRows();
         private final Looks looks = new Looks();
 
@@ -1213,14 +1208,9 @@ public final class Beaverhall {
         private int states = 0;
         private int steps = 0;
         private final Machine grown = new Machine(false, 2, SIGNS);
-        private final Judge judge;
-
-        Listing(Judge judge) {
-            this.judge = judge;
-        }
 
         /** What is listed depends on these numbers alone, so that the last list is used again. */
-        void list(int states, int steps) {
+        void list(Judge judge, int states, int steps) {
             if (states == this.states && steps == this.steps) {
                 return;
             }
@@ -1231,7 +1221,7 @@ public final class Beaverhall {
             open = 0;
             mostSteps = -1;
             mostMarks = 0;
-            grow(this, 1, 0);
+            grow(this, judge, 1, 0);
         }
 
         int partOf(char what) {
@@ -1248,13 +1238,12 @@ public final class Beaverhall {
         }
 
         /** The states used are the first so many ones, as each new one is the least that was not used. */
-        private static void grow(Listing list, int used, int depth) {
-            Run now = list.judge.now;
+        private static void grow(Listing list, Judge judge, int used, int depth) {
+            Run now = judge.now;
             now.go(list.grown, list.steps);
             if (!now.isHalted(list.grown)) {
-                Returns returns = list.judge.returns;
-                boolean never = returns.comesBack(list.grown, list.steps)
-                        || returns.comesBackFarther(list.grown, list.steps);
+                boolean never = judge.returns.comesBack(list.grown, list.steps)
+                        || judge.returns.comesBackFarther(list.grown, list.steps);
                 list.endless += never ? 1 : 0;
                 list.open += never ? 0 : 1;
                 return;
@@ -1271,7 +1260,7 @@ public final class Beaverhall {
                 for (int right = depth == 0 ? 1 : 0; right <= 1; right++) {
                     for (int next = 0; next < nexts; next++) {
                         list.grown.setOrder(state, sign, Machine.coded(write, right == 1, next));
-                        grow(list, Math.max(used, next + 1), depth + 1);
+                        grow(list, judge, Math.max(used, next + 1), depth + 1);
                     }
                 }
             }

@@ -5,6 +5,7 @@ public final class DeciderTest {
         halts();
         comesBack();
         comesFarther();
+        comesAtTheGreatestBound();
         cannotBeReached();
         isClosedIn();
         keepsVerdicts();
@@ -127,6 +128,28 @@ public final class DeciderTest {
         Due.is("no new cell", x.decide(3, 't', 500), false);
         Told.beaver5(x);
         Due.is("a long one", x.decide(4, 't', 500), false);
+    }
+
+    /** Found with the greatest bound, and with none that is less. */
+    private static void atTheGreatestBound(Beaverhall x, int machine, char letter, int a, int b) {
+        Due.is("with 499 of " + letter, x.decide(machine, letter, 499), false);
+        Due.is("with 500 of " + letter, x.decide(machine, letter, 500), true);
+        certified(x, machine, letter, a, b);
+    }
+
+    private static void comesAtTheGreatestBound() {
+        Beaverhall x = new Beaverhall();
+        Told.add(x, 'b', 5, 3, 212, 2, 110, 3, 213, 12, 113, 201, 111, 104, 202, 10, 0, 103, 10);
+        Told.add(x, 'o', 5, 3, 11, 110, 2, 202, 102, 1, 14, 200, 100, 111, 212, 204, 104, 112, 13);
+        Told.add(x, 'o', 5, 3, 11, 100, 0, 212, 110, 4, 114, 212, 203, 14, 203, 114, 200, 201, 113);
+        Told.add(x, 'b', 4, 3, 211, 203, 201, 200, 210, 112, 203, 113, 100, 111, 210, 11);
+        Told.add(x, 'b', 5, 3, 203, 200, 11, 103, 111, 110, 211, 0, 101, 102, 203, 10, 13, 211, 212);
+        atTheGreatestBound(x, 0, 'c', 352, 148);
+        atTheGreatestBound(x, 1, 'c', 168, 332);
+        atTheGreatestBound(x, 2, 'c', 496, 4);
+        atTheGreatestBound(x, 3, 't', 413, 500);
+        atTheGreatestBound(x, 4, 't', 366, -500);
+        Due.is("all are sound", x.isSound(), true);
     }
 
     private static void cannotBeReached() {

@@ -17,6 +17,7 @@ public final class ListingTest {
         }
         againstOracle(2, 40);
         againstOracle(2, 100);
+        listsAnew();
         champions();
         Due.end();
     }
@@ -115,6 +116,30 @@ public final class ListingTest {
                 }
             }
         }
+    }
+
+    /** A hall that has listed others answers as a new one does. */
+    private static void listsAnew() {
+        Beaverhall old = new Beaverhall();
+        int[][] lists = {{2, 3}, {2, 2}, {1, 2}, {2, 50}, {1, 50}, {1, 1}, {2, 1}, {2, 3}};
+        for (int[] each : lists) {
+            for (char what : new char[] {'o', 'm', 's', 'n', 'h'}) {
+                Due.is("listed " + each[0] + " " + each[1] + " " + what, old.listed(each[0], each[1], what),
+                        new Beaverhall().listed(each[0], each[1], what));
+            }
+        }
+        for (int[] each : lists) {
+            Due.is("haltingShare " + each[0] + " " + each[1], (double) old.haltingShare(each[0], each[1]),
+                    (double) new Beaverhall().haltingShare(each[0], each[1]));
+        }
+        Due.is("haltingShare ahead of all else", (double) new Beaverhall().haltingShare(2, 100),
+                (double) (19f / 61f));
+        Beaverhall fresh = new Beaverhall();
+        fresh.champion(2, 3);
+        Beaverhall other = new Beaverhall();
+        other.listed(2, 50, 'h');
+        other.champion(2, 3);
+        Due.is("champion behind another list", other.checksum(), fresh.checksum());
     }
 
     private static void champions() {
