@@ -64,7 +64,7 @@ final class Due {
     }
 
     /** The class is compared as it is: one below it, as the machine itself throws, is wrong too. */
-    private static void throwing(String call, Call made, Class<? extends RuntimeException> want) {
+    static void throwing(String call, Call made, Class<? extends RuntimeException> want) {
         calls++;
         try {
             made.make();
