@@ -193,19 +193,21 @@ public final class DeciderTermsTest {
                 + "behind b steps as behind a, as there are from its cell behind a steps to the leftmost cell on which "
                 + "it was from the step a to b");
         Beaverhall x = new Beaverhall();
-        // Forth and back, three steps for one cell; with each it writes 1 on the one, 2 and 0 on others.
+        // Forth and back, three steps for one cell; what it leaves behind are ones.
         Told.add(x, 'b', 3, 3, 111, 111, 111, 112, 112, 112, 200, 200, 200);
         found(x, 0, 't', 500, 2, 5);
         // Each way back goes to the left end of the ones, and the rows of ones are longer each time.
         Told.add(x, 'b', 2, 2, 101, 110, 110, 101);
         none(x, 1, 't', 500);
-        // As the first one, but the first cell that it comes back to is 2 at first, and 1 later.
-        Told.add(x, 'b', 4, 3, 213, -1, -1, 112, -1, -1, 3, -1, -1, 111, 111, 111);
-        x.decide(2, 't', 500);
-        Due.is("found", x.verdict(2), 'N');
-        Due.is("found and passes", x.passes(2), true);
-        int b = x.certificate(2, 'b');
-        none(x, 2, 't', b - 1);
+        // It looks back on the cell that it left, behind 1 step on a 2, behind 4, 7 and 10 steps on a 1.
+        Told.add(x, 'b', 4, 3, 212, -1, -1, 112, -1, -1, 3, -1, -1, -1, 111, 211);
+        none(x, 2, 't', 6);
+        found(x, 2, 't', 7, 4, 7);
+        passes(x, 2, 1, 4, false);
+        passes(x, 2, 1, 7, false);
+        passes(x, 2, 1, 10, false);
+        passes(x, 2, 4, 10, true);
+        passes(x, 2, 7, 10, true);
     }
 
     private static void comesFartherToTheLeft() {
