@@ -459,12 +459,27 @@ public final class DeciderTermsTest {
         for (int[] each : right) {
             passes(x, 0, each[0], each[1], true);
         }
+        // Alike but for the state: four states in turns on two cells.
+        Told.add(x, 'b', 4, 2, 11, -1, 2, -1, 13, -1, 0, -1);
+        found(x, 1, 'c', 4, 0, 4);
+        passes(x, 1, 0, 2, false);
+        passes(x, 1, 1, 2, false);
+        // Alike but for the cell: to and fro between two marks.
+        Told.add(x, 'b', 6, 2, 111, -1, 12, -1, 13, -1, 104, -1, 4, 115, 15, 104);
+        found(x, 2, 'c', 10, 4, 6);
+        passes(x, 2, 4, 1, false);
+        passes(x, 2, 7, 1, false);
+        passes(x, 2, 8, 6, true);
+        // Alike but for the sign of the rightmost cell.
+        Told.add(x, 'b', 2, 2, 101, 1, 10, -1);
+        found(x, 3, 'c', 4, 0, 4);
+        passes(x, 3, 0, 2, false);
         // A part of the way that does not come again.
         Told.add(x, 'o', 5, 2, 11, -1, 12, -1, 13, -1, 14, -1, 3, -1);
-        found(x, 1, 'c', 5, 3, 2);
-        passes(x, 1, 2, 2, false);
-        passes(x, 1, 2, 3, false);
-        passes(x, 1, 4, 2, true);
+        found(x, 4, 'c', 5, 3, 2);
+        passes(x, 4, 2, 2, false);
+        passes(x, 4, 2, 3, false);
+        passes(x, 4, 4, 2, true);
     }
 
     private static void checksFarther() {

@@ -543,6 +543,16 @@ public final class PromiseTest {
         x.forge(0, 'a', 1);
         x.forge(1, 'a', 1);
         Due.missing("none at all", () -> x.record('s'));
+        Beaverhall y = new Beaverhall();
+        // 2 steps and no mark, 1 step and a mark, and then none of either.
+        Told.add(y, 'b', 3, 2, 11, -1, 12, -1, -1, -1);
+        Told.add(y, 'b', 2, 2, 111, -1, -1, -1);
+        y.machine('b', 1, 2);
+        for (int i = 0; i < 3; i++) {
+            y.decide(i, 'h', 5);
+        }
+        Due.is("the most steps", y.record('s'), 0);
+        Due.is("the most marks", y.record('m'), 1);
     }
 
     private static void tell() {

@@ -317,6 +317,23 @@ public final class TermsTest {
             Due.is("it is at its bound", x.hasHalted(machine), false);
             Due.is("by runs", x.printByRuns(machine, 5000), x.print(machine));
         }
+        // The same, but that each step back writes 1: it stands on the last cell too.
+        Told.add(x, 'b', 3, 2, 11, 11, 12, 12, 100, 100);
+        Told.add(x, 'b', 3, 2, 1, 1, 2, 2, 110, 110);
+        for (int machine = 3; machine < 5; machine++) {
+            int last = machine == 3 ? 500 : -500;
+            x.run(machine, 1496);
+            Due.is("not written yet", x.signAt(machine, last), 0);
+            Due.is("marks", x.ran(machine, 'm'), 0);
+            x.run(machine, 1497);
+            Due.is("written on the last cell", x.signAt(machine, last), 1);
+            Due.is("marks", x.ran(machine, 'm'), 1);
+            Due.is("by runs", x.printByRuns(machine, 1497), x.print(machine));
+            Due.is("read there, with an order that would move beyond it", x.run(machine, 5000), 1498);
+            Due.is("the 1 stays", x.signAt(machine, last), 1);
+            Due.is("rows", x.runsOf(machine), 2);
+            Due.is("it is at its bound", x.hasHalted(machine), false);
+        }
     }
 
     private static void boundOfSteps() {
